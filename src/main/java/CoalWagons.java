@@ -299,6 +299,14 @@ public final class CoalWagons {
             return state == ON_ITS_WAY && place == where;
         }
 
+        boolean isHired() {
+            return state == STANDS && place != PORT && place != owner;
+        }
+
+        boolean isLoadedAtPort() {
+            return loaded && state == STANDS && place == PORT;
+        }
+
         boolean isOfKind(int kind) {
             return kind == BOTH || loaded == (kind == LOADED_ONES);
         }
@@ -329,6 +337,20 @@ public final class CoalWagons {
         void pay(Place receiver, int amount) {
             account -= amount;
             receiver.account += amount;
+        }
+
+        void payHire(Place lender, int amount) {
+            account -= amount;
+            hire -= amount;
+            lender.account += amount;
+            lender.hire += amount;
+        }
+
+        void payDemurrage(Place port, int amount) {
+            account -= amount;
+            demurrage += amount;
+            port.account += amount;
+            port.demurrage += amount;
         }
 
         int loadsOfHeap() {
@@ -565,7 +587,7 @@ public final class CoalWagons {
                 return INVALID_ARGUMENT;
             }
             Wagon wagon = wagonAt(number);
-            if (!wagon.loaded || !wagon.standsAt(PORT)) {
+            if (!wagon.isLoadedAtPort()) {
                 return NOT_POSSIBLE;
             }
             wagon.loaded = false;
@@ -700,38 +722,19 @@ public final class CoalWagons {
 
         private void payForTheDay() {
             Place port = placeAt(PORT);
+            int hire = setting(HIRE);
+            int demurrage = setting(DEMURRAGE);
+            int freeDays = setting(FREE_DAYS);
             for (int k = 0; k < wagonCount; k++) {
                 Wagon wagon = wagonAt(k);
                 Place owner = placeAt(wagon.owner);
-                if (hasToPayHire(wagon)) {
-                    payHire(placeAt(wagon.place), owner);
+                if (wagon.isHired()) {
+                    placeAt(wagon.place).payHire(owner, hire);
                 }
-                if (hasToPayDemurrage(wagon)) {
-                    payDemurrage(owner, port);
+                if (wagon.isLoadedAtPort() && day - wagon.since > freeDays) {
+                    owner.payDemurrage(port, demurrage);
                 }
             }
-        }
-
-        private boolean hasToPayHire(Wagon wagon) {
-            return wagon.state == STANDS && wagon.place != PORT && wagon.place != wagon.owner;
-        }
-
-        private boolean hasToPayDemurrage(Wagon wagon) {
-            return wagon.loaded && wagon.standsAt(PORT) && day - wagon.since > setting(FREE_DAYS);
-        }
-
-        private void payHire(Place mine, Place owner) {
-            int hire = setting(HIRE);
-            mine.pay(owner, hire);
-            mine.hire -= hire;
-            owner.hire += hire;
-        }
-
-        private void payDemurrage(Place owner, Place port) {
-            int demurrage = setting(DEMURRAGE);
-            owner.pay(port, demurrage);
-            owner.demurrage += demurrage;
-            port.demurrage += demurrage;
         }
 
         // ---- what there is
@@ -1092,7 +1095,7 @@ public final class CoalWagons {
             at = 0;
             orders = 0;
             reason = 0;
-            // An order that has no fault takes a sign at least: there are fewer of them than signs.
+            // Each order without a fault takes signs, so that there are no more of them than signs.
             for (int k = 0; k < MOST_SIGNS && at < length && !hasFault(); k++) {
                 int start = at;
                 if (!readOrder()) {
