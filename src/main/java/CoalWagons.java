@@ -972,13 +972,7 @@ public final class CoalWagons {
         }
 
         int ownedBy(int mine) {
-            int owned = 0;
-            for (int k = 0; k < wagonCount; k++) {
-                if (wagonAt(k).owner == mine) {
-                    owned++;
-                }
-            }
-            return owned;
+            return Integer.bitCount(setOwnedBy(mine));
         }
 
         int loadedOf(int mine) {

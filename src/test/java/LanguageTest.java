@@ -43,7 +43,7 @@ public final class LanguageTest {
     private static final Map<String, Integer> CONSTANTS = Map.of("INVALID_ARGUMENT", -2000000001, "NOT_POSSIBLE", -2000000002,
         "LIMIT_REACHED", -2000000003, "NOT_FOUND", -2000000004);
     private static final Set<String> LIBRARY = Set.of("java.lang.Math.min", "java.lang.Math.max", "java.lang.Math.floorMod",
-        "java.lang.System.arraycopy", "java.lang.Object.<init>");
+        "java.lang.System.arraycopy", "java.lang.Integer.bitCount", "java.lang.Object.<init>");
     private static final Set<Tree.Kind> FORBIDDEN = EnumSet.of(Tree.Kind.LAMBDA_EXPRESSION, Tree.Kind.MEMBER_REFERENCE,
         Tree.Kind.SWITCH_EXPRESSION, Tree.Kind.TRY, Tree.Kind.CATCH, Tree.Kind.THROW, Tree.Kind.SYNCHRONIZED, Tree.Kind.ASSERT,
         Tree.Kind.INSTANCE_OF, Tree.Kind.ANNOTATION, Tree.Kind.STRING_LITERAL, Tree.Kind.DIVIDE_ASSIGNMENT, Tree.Kind.REMAINDER,

@@ -29,6 +29,7 @@ public final class PromisesTest {
         undo();
         undoOfEachChange();
         errorsChangeNothing();
+        whatWouldBeChangesNothing();
         type();
         clearText();
         faultOfTheForm();
@@ -416,6 +417,26 @@ public final class PromisesTest {
             Calls.due(error + " is an error", answer <= CoalWagons.INVALID_ARGUMENT ? 1 : 0, 1);
             Calls.due(error + " changes nothing", before.equals(tellAll(x) + x.count(13)) ? 1 : 0, 1);
         }
+    }
+
+    // Promises 14 and 22: what is only tried leaves nothing behind in the changes that follow
+    private static void whatWouldBeChangesNothing() {
+        String start = "mine(60) mine(30) wagon(1) wagon(1) wagon(2) pass(2) load(0) train(1,0,2,8) pass(2) \"d1;w2;r1;t0,2,2,8;\" ";
+        String[] changes = {"mine(9)", "leg(0,1,4)", "wagon(2)", "load(2)", "unload(0)", "repair(1)", "train(0,2,2,8)",
+            "pass(9)", "set(2,9)", "play()"};
+        for (String change : changes) {
+            CoalWagons plain = Calls.run(start + change);
+            CoalWagons tried = Calls.run(start + "fault(0)=F " + change);
+            CoalWagons later = Calls.run(start + "would(1,99) " + change);
+            Calls.due(change + " after a text is tried", tellAll(tried).equals(tellAll(plain)) ? 1 : 0, 1);
+            Calls.due(change + " after days are tried", tellAll(later).equals(tellAll(plain)) ? 1 : 0, 1);
+        }
+        // A journey and the row at the shop are as they were, too.
+        Calls.run("mine(0) mine(0) wagon(1) leg(0,1,5) leg(0,2,3) train(1,0,0,1)=1 \"d5;t0,2,0,1;\" fault(0)=F pass(5)=1"
+            + " wagonOf(0,4)=5");
+        Calls.run("mine(0) wagon(1) wagon(1) wagon(1) wagon(1) train(1,0,0,8) pass(2) repair(0) repair(1) repair(2) repair(3)"
+            + " \"d4;r1;r0;\" fault(0)=F pass(3) wagonOf(0,3)=0 wagonOf(1,3)=0 wagonOf(2,6)=3 wagonOf(3,6)=3 pass(3)"
+            + " count(9)=4 count(6)=0");
     }
 
     // Promise 20
