@@ -1,10 +1,11 @@
 import java.util.ArrayList;
+import java.util.Collections;
 import java.util.List;
 
 /**
  * Runs calls that are written as words: "mine(60)=1 wagon(1)=0 load(0)=N". What is due may be a
  * number or a letter for an error (I, N, L, F), or be left out. A word in quotes is typed, sign by
- * sign; an underscore in it stands for a space.
+ * sign; an underscore in it stands for a space. "20*pass(99)=0" is the same word 20 times.
  */
 final class Calls {
     private static int asked = 0;
@@ -21,19 +22,68 @@ final class Calls {
 
     static void more(CoalWagons x, String words) {
         List<String> done = new ArrayList<>();
-        for (String word : words.trim().split("\\s+")) {
+        for (String word : split(words)) {
             done.add(word);
-            if (word.startsWith("\"")) {
-                typeAll(x, word.substring(1, word.length() - 1).replace('_', ' '));
-                continue;
-            }
-            int equals = word.indexOf('=');
-            String call = equals < 0 ? word : word.substring(0, equals);
-            int got = answer(x, call);
+            int got = doWord(x, word);
+            int equals = isTyped(word) ? -1 : word.indexOf('=');
             if (equals >= 0) {
                 due(String.join(" ", done), got, number(word.substring(equals + 1)));
             }
         }
+    }
+
+    static List<String> split(String words) {
+        List<String> all = new ArrayList<>();
+        for (String word : words.trim().split("\\s+")) {
+            int times = 1;
+            String once = word;
+            if (word.matches("\\d+\\*.*")) {
+                times = Integer.parseInt(word.substring(0, word.indexOf('*')));
+                once = word.substring(word.indexOf('*') + 1);
+            }
+            all.addAll(Collections.nCopies(times, once));
+        }
+        return all;
+    }
+
+    static boolean isTyped(String word) {
+        return word.startsWith("\"");
+    }
+
+    /** The answer of one word, whatever is due; 0 for one that is typed. */
+    static int doWord(CoalWagons x, String word) {
+        if (isTyped(word)) {
+            typeAll(x, word.substring(1, word.length() - 1).replace('_', ' '));
+            return 0;
+        }
+        int equals = word.indexOf('=');
+        return answer(x, equals < 0 ? word : word.substring(0, equals));
+    }
+
+    /** Everything that the questions tell, but how many states the history has. */
+    static String tellAll(CoalWagons x) {
+        StringBuilder all = new StringBuilder();
+        for (int what = 0; what <= 26; what++) {
+            all.append(what == 13 ? 0 : x.count(what)).append(' ');
+        }
+        for (int k = 0; k < x.count(1); k++) {
+            for (int what = 0; what <= 8; what++) {
+                all.append(x.wagonOf(k, what)).append(' ');
+            }
+        }
+        for (int k = 0; k <= 4; k++) {
+            for (int what = 0; what <= 9; what++) {
+                all.append(x.placeOf(k, what)).append(' ');
+            }
+            for (int other = 0; other <= 4; other++) {
+                all.append(x.days(k, other)).append(' ');
+            }
+            all.append(x.would(k, 50)).append(' ').append(x.lacks(k)).append(' ').append(x.share(k)).append(' ');
+        }
+        for (int what = 0; what <= 2; what++) {
+            all.append(x.bestTrain(what)).append(' ').append(x.fault(what)).append(' ');
+        }
+        return all.toString();
     }
 
     static void due(String what, long got, long want) {

@@ -371,38 +371,13 @@ public final class PromisesTest {
             "pass(9)", "set(2,9)", "play()"};
         for (String change : changes) {
             CoalWagons x = Calls.run(start + "\"w1;r1;d5;\"");
-            String before = tellAll(x);
+            String before = Calls.tellAll(x);
             int answer = Calls.answer(x, change);
             Calls.due(change + " changes", answer >= 0 ? 1 : 0, 1);
-            Calls.due(change + " is to be seen", tellAll(x).equals(before) ? 1 : 0, 0);
+            Calls.due(change + " is to be seen", Calls.tellAll(x).equals(before) ? 1 : 0, 0);
             x.undo();
-            Calls.due(change + " is undone", tellAll(x).equals(before) ? 1 : 0, 1);
+            Calls.due(change + " is undone", Calls.tellAll(x).equals(before) ? 1 : 0, 1);
         }
-    }
-
-    private static String tellAll(CoalWagons x) {
-        StringBuilder all = new StringBuilder();
-        for (int what = 0; what <= 26; what++) {
-            all.append(what == 13 ? 0 : x.count(what)).append(' ');
-        }
-        for (int k = 0; k < 20; k++) {
-            for (int what = 0; what <= 8; what++) {
-                all.append(x.wagonOf(k, what)).append(' ');
-            }
-        }
-        for (int k = 0; k <= 4; k++) {
-            for (int what = 0; what <= 9; what++) {
-                all.append(x.placeOf(k, what)).append(' ');
-            }
-            for (int other = 0; other <= 4; other++) {
-                all.append(x.days(k, other)).append(' ');
-            }
-            all.append(x.would(k, 50)).append(' ').append(x.lacks(k)).append(' ').append(x.share(k)).append(' ');
-        }
-        for (int what = 0; what <= 2; what++) {
-            all.append(x.bestTrain(what)).append(' ').append(x.fault(what)).append(' ');
-        }
-        return all.toString();
     }
 
     private static void errorsChangeNothing() {
@@ -412,10 +387,10 @@ public final class PromisesTest {
             "bestTrain(3)", "share(0)", "wagonOf(3,0)", "placeOf(3,0)", "count(15)"};
         for (String error : errors) {
             CoalWagons x = Calls.run(start + "\"w1;d1;t0,1,2,8;w3;\"");
-            String before = tellAll(x) + x.count(13);
+            String before = Calls.tellAll(x) + x.count(13);
             int answer = Calls.answer(x, error);
             Calls.due(error + " is an error", answer <= CoalWagons.INVALID_ARGUMENT ? 1 : 0, 1);
-            Calls.due(error + " changes nothing", before.equals(tellAll(x) + x.count(13)) ? 1 : 0, 1);
+            Calls.due(error + " changes nothing", before.equals(Calls.tellAll(x) + x.count(13)) ? 1 : 0, 1);
         }
     }
 
@@ -428,8 +403,8 @@ public final class PromisesTest {
             CoalWagons plain = Calls.run(start + change);
             CoalWagons tried = Calls.run(start + "fault(0)=F " + change);
             CoalWagons later = Calls.run(start + "would(1,99) " + change);
-            Calls.due(change + " after a text is tried", tellAll(tried).equals(tellAll(plain)) ? 1 : 0, 1);
-            Calls.due(change + " after days are tried", tellAll(later).equals(tellAll(plain)) ? 1 : 0, 1);
+            Calls.due(change + " after a text is tried", Calls.tellAll(tried).equals(Calls.tellAll(plain)) ? 1 : 0, 1);
+            Calls.due(change + " after days are tried", Calls.tellAll(later).equals(Calls.tellAll(plain)) ? 1 : 0, 1);
         }
         // A journey and the row at the shop are as they were, too.
         Calls.run("mine(0) mine(0) wagon(1) leg(0,1,5) leg(0,2,3) train(1,0,0,1)=1 \"d5;t0,2,0,1;\" fault(0)=F pass(5)=1"
